@@ -978,11 +978,14 @@ public final class ThirdFountain {
     }
 
     static int holds(int kind, int c, int pool) {
-      boolean flooding = kind == FLOODED && c > FLOOD;
-      if (!isOf(kind, DAMMED) || flooding) {
-        return 0;
+      switch (kind) {
+        case FLOODED:
+          return c > FLOOD ? 0 : Math.min(MOST_POOL - pool, c);
+        case DAMMED:
+          return Math.min(MOST_POOL - pool, c);
+        default:
+          return 0;
       }
-      return Math.min(MOST_POOL - pool, c);
     }
 
     /**
@@ -1413,13 +1416,13 @@ public final class ThirdFountain {
     private static final int NUMBER = 2;
     private static final int SIGN = 3;
     private static final int ODD = 4;
+    private static final int BLANK = 5;
     private static final int LARGEST = 99999;
     private final int[] bytes;
     int size;
     private int token;
     private int start;
     private int end;
-    private int value;
     /** The number that was read last. */
     private int number;
 
@@ -1499,12 +1502,24 @@ public final class ThirdFountain {
     }
 
     private boolean readNumber(int least, int most) {
-      if (token != NUMBER || value < least || value > most) {
+      if (token != NUMBER) {
         return false;
       }
-      number = value;
+      number = valueOfDigits();
+      if (number < least || number > most) {
+        return false;
+      }
       advance();
       return true;
+    }
+
+    /** A number that is too large stays at one more than the largest. */
+    private int valueOfDigits() {
+      int value = 0;
+      for (int i = start; i < end; i++) {
+        value = Math.min(value * 10 + byteAt(i) - '0', LARGEST + 1);
+      }
+      return value;
     }
 
     private int kindTold() {
@@ -1549,49 +1564,40 @@ public final class ThirdFountain {
 
     private void advance() {
       start = end;
-      for (int i = 0; i < MOST_BYTES && byteAt(start) == ' '; i++) {
+      for (int i = 0; i < MOST_BYTES && beginsAt(start) == BLANK; i++) {
         start++;
       }
       end = start;
-      if (start >= size) {
-        token = END;
-      } else if (isLetter(byteAt(start))) {
-        token = WORD;
-        passLetters();
-      } else if (isDigit(byteAt(start))) {
-        token = NUMBER;
-        passDigits();
-      } else {
-        token = byteAt(start) == ';' ? SIGN : ODD;
-        end = start + 1;
+      token = beginsAt(start);
+      if (token != END) {
+        end++;
       }
-    }
-
-    private void passLetters() {
-      for (int i = 0; i < MOST_BYTES && isLetter(byteAt(end)); i++) {
+      boolean lasting = token == WORD || token == NUMBER;
+      for (int i = 0; i < MOST_BYTES && lasting && beginsAt(end) == token; i++) {
         end++;
       }
     }
 
-    /** A number that is too large stays at one more than the largest. */
-    private void passDigits() {
-      value = 0;
-      for (int i = 0; i < MOST_BYTES && isDigit(byteAt(end)); i++) {
-        value = Math.min(value * 10 + byteAt(end) - '0', LARGEST + 1);
-        end++;
+    /** The kind of token that would begin here, if none had begun before. */
+    private int beginsAt(int i) {
+      int b = byteAt(i);
+      if (b == NOTHING) {
+        return END;
       }
+      if (b >= 'a' && b <= 'z') {
+        return WORD;
+      }
+      if (b >= '0' && b <= '9') {
+        return NUMBER;
+      }
+      if (b == ' ') {
+        return BLANK;
+      }
+      return b == ';' ? SIGN : ODD;
     }
 
     private int byteAt(int i) {
       return i >= 0 && i < size && i < MOST_BYTES ? bytes[i] : NOTHING;
-    }
-
-    private static boolean isLetter(int b) {
-      return b >= 'a' && b <= 'z';
-    }
-
-    private static boolean isDigit(int b) {
-      return b >= '0' && b <= '9';
     }
   }
 }
