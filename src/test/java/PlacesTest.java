@@ -211,6 +211,7 @@ public final class PlacesTest extends Sentences {
     due(laid(3, -1, 1, 0, 0, 1, 0, 0, 1, 0, 2, 1).generous(1), 2);
     // Of several the least, though there are no others that get more.
     due(chain(3, 3).generous(60), 0);
+    due(chain(0, 3).generous(1), 0);
     due(chain(0).generous(1), 0);
     due(withSpring(chain(0, 0, 0), 2).generous(60), 0);
     due(laid(3, -1, 1, 0, 0, 1, 0, 0, 1, 0, 1, 1, 0, 2, 1).generous(1), 1);
@@ -228,7 +229,16 @@ public final class PlacesTest extends Sentences {
     refused(NONE, Sentences::fresh, y -> y.generous(1), y -> y.generous(60));
   }
 
+  private static void tenBasins() {
+    holds(0, "AHEAD: n HOURS go on with all as it is; nothing changes");
+    onlyAsks(Sentences::full, y -> y.edge(9, 60), y -> y.place(9, 60), y -> y.kindFor(9, 60), y -> y.hurt(9, 60),
+        y -> y.law(60), y -> y.generous(60));
+    due(full().generous(60), 0);
+    due(full().hurt(0, 60), 0b110);
+  }
+
   public static void main(String[] args) {
+    tenBasins();
     edge();
     place();
     kindFor();

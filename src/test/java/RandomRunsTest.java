@@ -102,7 +102,9 @@ public final class RandomRunsTest {
     }
 
     int width(int above) {
-      return basins.stream().filter(b -> b.below == above).mapToInt(b -> b.edge).sum();
+      int e = 0;
+      for (Basin b : basins) if (b.below == above) e += b.edge;
+      return e;
     }
 
     /** One hour; dry: nothing changes but what is told of it. */

@@ -70,6 +70,12 @@ public final class ShortsTest extends Sentences {
     setsDue(noted(27, 7), 2, 2, 6);
     setsDue(paper(fresh(), 0, 8, 1), 0, 0, 0);
     setsDue(paper(full(), 0, 8), 0, 0, 1023);
+    // Sheets one after the other, and the same one with another number.
+    ThirdFountain x = paper(noted(), 1, 16, 27, 6, 14);
+    setsDue(x, 0, 0, 7);
+    allDue(4, x.chipped(1, 0), x.chipped(1, 1), x.chipped(1, 2));
+    x.write(1, 2, 12);
+    allDue(0, x.chipped(1, 0), x.chipped(1, 1), x.chipped(1, 2));
     onlyAsks(() -> noted(27, 6), y -> y.chipped(0, 0), y -> y.chipped(0, 1), y -> y.chipped(0, 2));
 
     holds(28, "BEYOND: what");

@@ -75,6 +75,12 @@ public final class TextsTest extends Sentences {
     itemsDue("spring 0", 1);
     itemsDue("spring 99999", 1);
     faultDue("spring 100000", 7);
+    for (String odd : new String[] {"casin", "basim", "basinz", "abasin", "basi", "qpring 1", "springz 1", "holey", "BASIN"}) {
+      faultDue(odd, 0);
+    }
+    faultDue("basin;basin aelow 0", 12);
+    faultDue("basin eege 1", 6);
+    faultDue("basin edges 1", 6);
     itemsDue("spring 0099999", 1);
     faultDue("spring 00100000", 7);
     faultDue("spring 4294967297", 7);
