@@ -11,7 +11,7 @@ public final class SharesTest extends Sentences {
     due(x.rest(basin, 1), below);
   }
 
-  /** The greatest line that PIPED BASINS come to within the limit: that of 8 and 9. */
+  /** A line just within the limit, that of 8 and 9; 100000000000 itself would want 5 ^ 11, which 10 BASINS don't bring. */
   private static ThirdFountain justFits() {
     return laid(4, -1, 1, 4, 0, 4, 4, 1, 8, 4, 1, 1, 4, 2, 9, 4, 4, 7, 4, 4, 6, 4, 5, 1, 4, 7, 4, 4, 7, 1);
   }
